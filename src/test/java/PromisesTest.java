@@ -120,6 +120,8 @@ public final class PromisesTest {
         Check.due("3 dirty", true, () -> x.isDirty(1));
         Check.due("3 write(1023, -1)", 0, () -> x.write(1023, -1));
         Check.due("3 write(0, 1)", 0, () -> x.write(0, 1));
+        Check.due("3 write(0, 0)", 1, () -> x.write(0, 0));
+        Check.due("3 write(0, 1) again", 0, () -> x.write(0, 1));
         x.bringHome();
         Check.due("3 write of the same word", HIGH, () -> x.write(7, HIGH));
         Check.due("3 dirty by the same word", true, () -> x.isDirty(1));
@@ -146,6 +148,12 @@ public final class PromisesTest {
         Check.due("4 1000 + 64 is 40", 1, () -> far.placeOf(10));
         far.walk(10, -64, 2);
         Check.due("4 10 - 64 is 970", 1, () -> far.placeOf(242));
+
+        OutcastBench round = new OutcastBench();
+        round.walk(1023, 4, 2);
+        Check.due("4 1023 + 4 is 3", 1, () -> round.placeOf(0));
+        round.walk(0, -4, 2);
+        Check.due("4 0 - 4 is 1020", "2 0", () -> round.hits() + " " + round.swaps());
 
         OutcastBench homes = new OutcastBench();
         homes.build(1, 1);
@@ -564,6 +572,13 @@ public final class PromisesTest {
         Check.due("23 again the same", 100 + 20, () -> x.wouldCost(4, 0));
         Check.due("23 changes nothing", before, () -> standing(x));
         Check.due("23 the words stay", 1, () -> x.read(0));
+
+        OutcastBench late = new OutcastBench();
+        late.read(0);
+        late.read(4);
+        late.write(0, 1);
+        Check.due("23 dirty at the end", 60, () -> late.wouldCost(1, 0));
+        Check.due("23 clean at the next start", 60, () -> late.wouldCost(1, 0));
     }
 
     private static void wouldCostForgetsOldAccesses() {
