@@ -11,7 +11,9 @@ import java.util.Random;
  */
 public final class ModelTest {
     private static final int RUNS = 600;
+    /** As many as an object is used for, with the looks at the end. */
     private static final int CALLS = 512;
+    private static final int LOOKS_AT_THE_END = 10;
     private static final int[] ALL_SETS = {1, 2, 4, 8, 16};
 
     public static void main(String[] args) {
@@ -38,8 +40,7 @@ public final class ModelTest {
         }
 
         void play() {
-            // The looks at the end count as calls, too.
-            while (call < CALLS - 20) {
+            while (call < CALLS - LOOKS_AT_THE_END) {
                 change();
                 look();
             }
